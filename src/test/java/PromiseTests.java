@@ -164,6 +164,8 @@ public final class PromiseTests {
         due("4 four units, eight reels",
             tell(x, "r1 1;r1 1;r1 1;r1 1;u1;u1;u1;r1 1;r1 1;r1 1;r1 1;"), 11);
         due("4 no blank but between numbers", tell(x, "r12-3;u4;"), 2);
+        due("4 a full text", tell(x, "u1;" + " ".repeat(114) + "e2;"), 2);
+        due("4 a full text that ends too early", tell(x, "u1;" + " ".repeat(115) + "e2"), -130);
     }
 
     private static void fault(String text, int place) {
@@ -180,6 +182,9 @@ public final class PromiseTests {
         fault("u1", 2);
         fault("u1 ", 3);
         fault("r", 1);
+        fault("r;", 1);
+        fault("r1;", 2);
+        fault("r1-;", 3);
         fault("r1", 2);
         fault("r1-", 3);
         fault("r1 - ", 5);
@@ -271,6 +276,20 @@ public final class PromiseTests {
         tell(x, "e1;r9 5;");
         x.ticks(2);
         lastIs("4 errors of units that are gone", x, 0, 0, 1, 0, 0, 0, 0);
+        x = told("u1;u1;e1;r9 0;r9 0;");
+        x.ticks(6);
+        x.spins();
+        x.corrects(1, 3);
+        due("4 good ones ahead of it", x.count(4), 3);
+        tell(x, "u1;u1;e1;r9 0;r9 0;");
+        due("4 good ones are gone", x.count(4), 0);
+        due("4 not spun", x.count(9), 0);
+        due("4 nothing is to be passed ahead", x.unit(2, 5), 0);
+        for (int i = 0; i < 3; i++) {
+            tell(x, "");
+            x.ticks(1);
+            due("4 no reel of an older text is on", x.count(10), 0);
+        }
     }
 
     private static void promise5() {
@@ -643,6 +662,14 @@ public final class PromiseTests {
         due("11 last 4", x.last(0), 4);
         x.undo();
         lastIs("11 last as it was", x, 0, 0, 1, 0, 1, 0, 0);
+        x = told("e1;p1;r1 0;r9 0;");
+        x.spins();
+        x.ticks(3);
+        lastIs("11 a splice", x, 1, 1, 0);
+        x.ticks(1);
+        lastIs("11 behind the splice", x, 2, 0, 1);
+        x.undo();
+        lastIs("11 the splice again", x, 1, 1, 0);
     }
 
     private static void promise12() {
@@ -744,6 +771,10 @@ public final class PromiseTests {
         due("15 UNIT 2 by what was passed", x.error(2, 3), 2);
         x.ticks(2);
         due("15 broken", x.error(0, 0), NOT);
+        x = told("u1;u1;u1;e9;r9 3;");
+        x.ticks(4);
+        due("15 UNIT 3", x.error(3, 3), 9);
+        due("15 UNIT 3 not yet", x.error(3, 2), NOT);
     }
 
     private static void promise16() {
@@ -771,6 +802,10 @@ public final class PromiseTests {
         due("16 two units, passed ahead", x.steady(), 6);
         x.aheads(0);
         due("16 two units, counted twice", x.steady(), 8);
+        x = told("u1;e1;i0;r2 2;");
+        due("16 the reel lasts for ever", x.steady(), 4);
+        x.ticks(2);
+        due("16 though none is left", x.steady(), 2);
         x = told("u1;e1;i0;r1 0;r9 2;p1;");
         x.spins();
         x.ticks(2);
