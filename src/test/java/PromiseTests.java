@@ -1,10 +1,5 @@
 /** For each promise of the document: ordinary inputs, the edges that it names, wrong inputs. */
-public final class PromiseTests {
-    private static final int BAD = -1, STATE = -2, FULL = -3, NONE = -9;
-    private static final int NO = -1000000, NOT = -2000000;
-    private static int wrong = 0;
-    private static int asked = 0;
-
+public final class PromiseTests extends Due {
     public static void main(String[] args) {
         promise1();
         promise2();
@@ -35,52 +30,7 @@ public final class PromiseTests {
         promise21();
         promise22and23();
         promise24();
-        System.out.println(asked + " answers asked, " + wrong + " not as due");
-        if (wrong != 0) {
-            System.exit(1);
-        }
-    }
-
-    private static void due(String what, int got, int want) {
-        asked++;
-        if (got != want) {
-            wrong++;
-            System.out.println(what + " answered " + got + ", due is " + want);
-        }
-    }
-
-    private static int tell(SplicedWeb x, String text) {
-        for (int i = 0; i < text.length(); i++) {
-            x.type(text.charAt(i));
-        }
-        return x.tells();
-    }
-
-    private static SplicedWeb told(String text) {
-        SplicedWeb x = new SplicedWeb();
-        int answer = tell(x, text);
-        if (answer < 0) {
-            due("tells() of \"" + text + "\"", answer, 0);
-        }
-        return x;
-    }
-
-    private static void counts(String when, SplicedWeb x, int... want) {
-        for (int i = 0; i < want.length; i++) {
-            due(when + ": count(" + i + ")", x.count(i), want[i]);
-        }
-    }
-
-    private static void unitIs(String when, SplicedWeb x, int k, int... want) {
-        for (int i = 0; i < want.length; i++) {
-            due(when + ": unit(" + k + ", " + i + ")", x.unit(k, i), want[i]);
-        }
-    }
-
-    private static void lastIs(String when, SplicedWeb x, int... want) {
-        for (int i = 0; i < want.length; i++) {
-            due(when + ": last(" + i + ")", x.last(i), want[i]);
-        }
+        finish();
     }
 
     private static void promise1() {
@@ -931,16 +881,13 @@ public final class PromiseTests {
         x.ticks(5);
         due("22 then", x.keep(1), 5);
         due("22 nothing is lost", x.count(19), 5);
-        int[] was = picture(x);
+        int[] was = pictureOfRun(x);
         x.sees(1, 3);
         x.type('u');
         x.ticks(60);
         due("23 broken", x.count(10), 0);
         due("23 back", x.back(1), 5);
-        int[] is = picture(x);
-        for (int i = 0; i < was.length; i++) {
-            due("23 as it was, " + i, is[i], was[i]);
-        }
+        same("23 as it was", pictureOfRun(x), was);
         due("23 nothing can be undone", x.undo(), STATE);
         due("23 what was seen is as it is", x.count(17), 1);
         due("23 the text is as it is", x.count(18), 1);
@@ -955,22 +902,6 @@ public final class PromiseTests {
         due("22 over an image", x.keep(0), 5);
         x.ticks(1);
         due("23 the new one", x.back(0), 5);
-    }
-
-    /** All that part 2 tells, as far as it can be asked. */
-    private static int[] picture(SplicedWeb x) {
-        int[] row = new int[200];
-        int n = 0;
-        for (int what = 2; what <= 12; what++) row[n++] = x.count(what);
-        for (int k = 0; k < 3; k++) {
-            for (int what = 0; what <= 5; what++) row[n++] = x.unit(k, what);
-            for (int age = 0; age < 6; age++) row[n++] = x.error(k, age);
-        }
-        for (int what = 0; what <= 6; what++) row[n++] = x.last(what);
-        for (int r = 0; r < 2; r++) row[n++] = x.reel(r, 2);
-        row[n++] = x.steady();
-        row[n++] = x.cost();
-        return row;
     }
 
     private static void promise24() {
