@@ -105,11 +105,12 @@ abstract class Due {
 
     // ---- states that the edges are tried in; each is made by less than 130 calls
 
-    /** Four UNITS, three REELS, the next one spun; some of all is under way, IMAGE 1 was not kept. */
+    /** Four UNITS, three REELS, the last one spun; GOOD, WASTE and a SPLICE came, IMAGE 1 was not kept. */
     static SplicedWeb busy() {
-        SplicedWeb x = told("u2;u3;u1;e2;l4;i1;p2;r20 2;r9-3;r9 1;");
-        x.drifts(1, 5);
+        SplicedWeb x = told("u2;u3;u1;e2;l4;i1;p2;r4 1;r20-3;r9 1;");
+        x.spins();
         x.ticks(11);
+        x.drifts(1, 5);
         x.corrects(2, -3);
         x.spins();
         x.ticks(2);

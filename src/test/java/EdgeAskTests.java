@@ -647,6 +647,52 @@ public final class EdgeAskTests extends Due {
         due("to what the IMAGE has", x.unit(1, 2), 0);
     }
 
+    /** A SPLICE under way, GOOD and WASTE that came, kept as an IMAGE. */
+    private static SplicedWeb splicedAndKept() {
+        SplicedWeb x = told("u1;u2;u1;e3;l4;i0;p1;r9 1;r40-2;r9 3;");
+        x.spins();
+        x.ticks(12);
+        x.keep(1);
+        return x;
+    }
+
+    /** "All of that becomes as an IMAGE has it": as of one that was never anywhere else, now and later */
+    private static void promise23_allBecomesAsTheImageHasIt() {
+        SplicedWeb x = splicedAndKept();
+        x.ticks(50);
+        due("back(1)", x.back(1), 12);
+        same("now", pictureOfRun(x), pictureOfRun(splicedAndKept()));
+        x = splicedAndKept();
+        x.ticks(50);
+        x.back(1);
+        SplicedWeb other = splicedAndKept();
+        for (int i = 1; i <= 9; i++) {
+            due("ticks() " + i, x.ticks(1), other.ticks(1));
+            for (int what = 0; what <= 6; what++) {
+                due("last(" + what + ") " + i + " TICKS later", x.last(what), other.last(what));
+            }
+        }
+    }
+
+    /** The same of a SPLICE that was pasted, and of the copy that came last */
+    private static void promise23_aSplice() {
+        SplicedWeb x = told("e1;p1;r1 0;r9 0;");
+        x.spins();
+        x.keep(0);
+        x.ticks(3);
+        x.keep(1);
+        x.ticks(1);
+        x.back(1);
+        lastIs("the SPLICE", x, 1, 1, 0);
+        due("SPLICES", x.count(12), 1);
+        x.back(0);
+        lastIs("none came", x, NOT, NOT, NOT);
+        due("no SPLICES", x.count(12), 0);
+        x.back(1);
+        lastIs("the SPLICE again", x, 1, 1, 0);
+        due("SPLICES again", x.count(12), 1);
+    }
+
     /** Out of BROKEN and into it */
     private static void promise23_outOfBrokenAndIntoIt() {
         SplicedWeb x = broken();

@@ -125,6 +125,16 @@ public final class EdgeRunTests extends Due {
         due("ticks(1)", x.ticks(1), STATE);
     }
 
+    /** The same behind texts that told REELS: none of theirs is on */
+    private static void promise05_noReelOfAnOlderTextIsOn() {
+        SplicedWeb x = told("r9 9;r9 9;");
+        for (int i = 0; i < 3; i++) {
+            due("tells() of no REEL", tell(x, "u1;"), 1);
+            x.ticks(1);
+            brokenAt("behind it", x, 1, 0, 0, 0);
+        }
+    }
+
     /** "SPUN is SPIN or more": just SPIN, by the greatest SPIN and by the least */
     private static void promise05_spunJustLongEnough() {
         SplicedWeb x = told("e1;p20;r19 0;r9 0;");
@@ -857,6 +867,53 @@ public final class EdgeRunTests extends Due {
         row[n++] = x.error(2, 2);
         row[n++] = x.reel(0, 2);
         return row;
+    }
+
+    /** A SPLICE under way, GOOD and WASTE that came, all UNITS CORRECTED. */
+    private static SplicedWeb spliced() {
+        SplicedWeb x = told("u1;u2;u1;e3;l4;i0;p1;r9 1;r40-2;r9 3;");
+        x.spins();
+        x.ticks(12);
+        return x;
+    }
+
+    /** "all that 2 tells is as ahead of it": as of one on which it never was done, now and later */
+    private static void promise11_allThat2TellsIsAsAheadOfIt() {
+        SplicedWeb x = spliced();
+        x.ticks(50);
+        due("undo()", x.undo(), 2);
+        same("now", pictureOfRun(x), pictureOfRun(spliced()));
+        x = spliced();
+        x.ticks(50);
+        x.undo();
+        SplicedWeb other = spliced();
+        for (int i = 1; i <= 9; i++) {
+            due("ticks() " + i, x.ticks(1), other.ticks(1));
+            for (int what = 0; what <= 6; what++) {
+                due("last(" + what + ") " + i + " TICKS later", x.last(what), other.last(what));
+            }
+        }
+        due("SPLICE came", x.count(5) > 0 ? 1 : 0, 1);
+    }
+
+    /** "all that 2 tells": a SPLICE that was pasted, and the copy that came last */
+    private static void promise11_aSpliceIsUndone() {
+        SplicedWeb x = told("e1;p1;r1 0;r9 0;");
+        x.spins();
+        x.ticks(1);
+        x.ticks(1);
+        due("SPLICES", x.count(12), 1);
+        x.ticks(1);
+        lastIs("the SPLICE", x, 1, 1, 0);
+        x.ticks(1);
+        lastIs("the one behind it", x, 2, 0, 1);
+        x.undo();
+        lastIs("the SPLICE again", x, 1, 1, 0);
+        x.undo();
+        lastIs("the one ahead of it", x, 0, 0, 1);
+        x.undo();
+        due("no SPLICES", x.count(12), 0);
+        lastIs("none came", x, NOT, NOT, NOT);
     }
 
     /** "that was not refused": refused ones are not known */

@@ -395,6 +395,11 @@ public final class EdgeTextTests extends Due {
         fault("e;", 1);
         fault(";", 0);
         fault("u1;;", 3);
+        fault("r;", 1);
+        fault("r-;", 1);
+        fault("5", 0);
+        fault("99;", 0);
+        fault("u1; 0", 4);
         fault("u1 1", 3);
         fault("r1 1 1", 5);
     }
