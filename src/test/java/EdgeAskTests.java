@@ -292,6 +292,23 @@ public final class EdgeAskTests extends Due {
         return x;
     }
 
+    /** "by TICK 300 from now": the first that comes is the one of TICK 300, then 301; it is set from outside, too */
+    private static void promise16_byTick300() {
+        due("the first copy of all", firstComesAt(3).steady(), 4);
+        due("200 is the last that is out", firstComesAt(199).steady(), 200);
+        due("299", firstComesAt(299).steady(), NONE);
+        due("300", firstComesAt(300).steady(), NONE);
+        due("301", firstComesAt(301).steady(), 0);
+    }
+
+    /** OFF of UNIT 1 is 3, and copies are held back, so that the first comes to the CAMERA at this TICK. */
+    private static SplicedWeb firstComesAt(int tick) {
+        SplicedWeb x = told("u1;e1;i0;r9 0;");
+        x.drifts(1, 3);
+        setInner(inner(inner(x, "press"), "band"), "underWay", 3 - tick);
+        return x;
+    }
+
     /** "(the REEL that is on lasting for ever": with one copy, with none LEFT, the next one being spun */
     private static void promise16_theReelLastsForEver() {
         SplicedWeb x = told("u1;e1;i0;p1;r1 2;r9 9;");

@@ -10,8 +10,12 @@ import java.util.Random;
  * document word by word (lists of copies, brute force for what comes), and compared.
  */
 public final class ModelTests {
-    private static final int RUNS = 1500;
-    private static final int CALLS = 90;
+    private static final int RUNS = 12000;
+    /** "An object is used for at most 512 calls": what later ones answer is free, so none is asked. */
+    private static final int MOST_CALLS = 512;
+    /** One step tells a text at most: its letters, and two calls. */
+    private static final int CALLS_OF_A_STEP = 122;
+    private static final int CALLS_OF_A_PICTURE = 219;
     private static int wrong = 0;
 
     public static void main(String[] args) {
@@ -31,6 +35,7 @@ public final class ModelTests {
         final SplicedWeb web = new SplicedWeb();
         final Model model = new Model();
         final StringBuilder calls = new StringBuilder();
+        int made = 0;
         boolean differs = false;
 
         Run(int number) {
@@ -38,12 +43,22 @@ public final class ModelTests {
             this.random = new Random(number);
         }
 
+        /** Every other run is a short one that ends with all that can be asked; the rest go on for longer. */
         void go() {
-            compareAll();
-            tell(validText());
-            for (int i = 0; i < CALLS && !differs; i++) {
+            boolean endsWithAll = number % 2 == 0;
+            int room = MOST_CALLS - CALLS_OF_A_STEP - (endsWithAll ? CALLS_OF_A_PICTURE : 1);
+            if (number % 20 > 0) {
+                tell(validText());
+            }
+            while (made <= room && !differs) {
                 step();
+                askOne();
+            }
+            if (endsWithAll) {
                 compareAll();
+            }
+            if (made > MOST_CALLS) {
+                throw new IllegalStateException("run " + number + " makes " + made + " calls");
             }
         }
 
@@ -54,7 +69,7 @@ public final class ModelTests {
         String validText() {
             StringBuilder s = new StringBuilder();
             int units = between(0, 3);
-            int reels = between(0, 12) == 0 ? 0 : between(1, 6);
+            int reels = between(0, 12) == 0 ? 0 : between(1, 8);
             for (int i = 0; i < units; i++) {
                 s.append("u").append(between(1, 6)).append(";");
             }
@@ -72,6 +87,7 @@ public final class ModelTests {
 
         String spoiltText() {
             StringBuilder s = new StringBuilder(validText());
+            if (random.nextInt(4) == 0) s.append(random.nextBoolean() ? "u1;" : "r100 0;r9 1;");
             String signs = "urelip-;0123456789 x" + (char) 0 + (char) 255;
             int times = between(1, 3);
             for (int i = 0; i < times; i++) {
@@ -164,21 +180,29 @@ public final class ModelTests {
             }
         }
 
-        void compareAll() {
-            for (int what = -1; what <= 20; what++) same("count(" + what + ")", web.count(what), model.count(what));
-            for (int what = -1; what <= 7; what++) same("last(" + what + ")", web.last(what), model.last(what));
-            for (int k = -1; k <= 4; k++) {
-                for (int what = -1; what <= 6; what++) {
-                    same("unit(" + k + ", " + what + ")", web.unit(k, what), model.unit(k, what));
-                }
-                for (int age = -1; age <= 29; age++) {
-                    same("error(" + k + ", " + age + ")", web.error(k, age), model.error(k, age));
-                }
+        void askOne() {
+            switch (random.nextInt(12)) {
+                case 0: case 1: sameCount(between(-1, 20)); break;
+                case 2: sameLast(between(-1, 7)); break;
+                case 3: case 4: sameUnit(between(-1, 4), between(-1, 6)); break;
+                case 5: case 6: sameError(between(-1, 4), between(-1, 29)); break;
+                case 7: sameReel(between(-1, 8), between(-1, 3)); break;
+                case 8: same("steady()", web.steady(), model.steady()); break;
+                case 9: same("cost()", web.cost(), model.cost()); break;
+                case 10: same("which()", web.which(), model.which()); break;
+                default: same("look()", web.look(), model.look()); break;
             }
-            for (int r = -1; r <= 8; r++) {
-                for (int what = -1; what <= 3; what++) {
-                    same("reel(" + r + ", " + what + ")", web.reel(r, what), model.reel(r, what));
-                }
+        }
+
+        void compareAll() {
+            for (int what = 0; what <= 19; what++) sameCount(what);
+            for (int what = 0; what <= 6; what++) sameLast(what);
+            for (int k = 0; k <= 3; k++) {
+                for (int what = 0; what <= 5; what++) sameUnit(k, what);
+                for (int age = 0; age <= 34; age++) sameError(k, age);
+            }
+            for (int r = 0; r <= 7; r++) {
+                for (int what = 0; what <= 2; what++) sameReel(r, what);
             }
             same("steady()", web.steady(), model.steady());
             same("cost()", web.cost(), model.cost());
@@ -186,7 +210,28 @@ public final class ModelTests {
             same("look()", web.look(), model.look());
         }
 
+        void sameCount(int what) {
+            same("count(" + what + ")", web.count(what), model.count(what));
+        }
+
+        void sameLast(int what) {
+            same("last(" + what + ")", web.last(what), model.last(what));
+        }
+
+        void sameUnit(int k, int what) {
+            same("unit(" + k + ", " + what + ")", web.unit(k, what), model.unit(k, what));
+        }
+
+        void sameError(int k, int age) {
+            same("error(" + k + ", " + age + ")", web.error(k, age), model.error(k, age));
+        }
+
+        void sameReel(int r, int what) {
+            same("reel(" + r + ", " + what + ")", web.reel(r, what), model.reel(r, what));
+        }
+
         void same(String call, int got, int want) {
+            made++;
             boolean changes = "type tells clear ticks drifts corrects spins starts aheads undo sees forget keep back"
                 .contains(call.substring(0, call.indexOf('(')));
             if (changes) {
